@@ -478,6 +478,12 @@ public final class EditingTest {
         due.is("a byte", x.equal(0, 1), 0);
         x.damage(0, 2, 12, 1);
         due.is("equal(0, 1)", x.equal(0, 1), 1);
+        for (int i = 0; i < 13; i++) {
+            x.damage(1, 2, i, 64);
+            due.is("byte " + i, x.equal(0, 1), 0);
+            x.damage(1, 2, i, 64);
+        }
+        due.is("equal(0, 1)", x.equal(0, 1), 1);
         x.lose(0, 1);
         due.is("LOST here", x.equal(0, 1), 0);
         due.is("LOST there", x.equal(1, 0), 0);

@@ -321,6 +321,11 @@ public final class InstrumentsTest {
         frequency(x, 0, 0.0625 * 0.001);
         frequency(x, 1, 0.0625 * 0.001 / 2.0);
         frequency(x, 2, 0.0);
+        x.tune(0, 1, 1);
+        for (int v = 1; v <= 16384; v *= 2) {
+            x.base(v);
+            frequency(x, 0, v / 16.0);
+        }
         for (int v = 1; v <= 32000; v += 997) {
             x.base(v);
             x.tune(0, 1 + v % 1000, 1 + v % 777);
@@ -391,6 +396,9 @@ public final class InstrumentsTest {
         x.tune(0, 0, 1);
         due.is("0 is a number", x.mute(0), 0);
         due.is("higher(0, 1)", x.higher(0, 1), 3);
+        due.is("higher(1, 0)", x.higher(1, 0), 1);
+        x.tune(1, 0, 1);
+        due.is("higher(1, 0)", x.higher(1, 0), 2);
     }
 
     private static void busy() {

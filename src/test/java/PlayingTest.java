@@ -26,6 +26,10 @@ public final class PlayingTest {
         beats();
         times();
         eventsAtMost();
+        deepestCoupler();
+        mostThatSound();
+        mostStrips();
+        lastInstrument();
         due.end();
     }
 
@@ -756,5 +760,97 @@ public final class PlayingTest {
         due.is("back(1)", x.back(1), 0);
         due.is("count(3)", x.count(3), 0);
         due.is("event(0, 0)", x.event(0, 0), NONE);
+    }
+
+    /** 39 COUPLERS, each the MEMBER of the one ahead of it, and a PIPE: INSTRUMENTS 0 .. 38 and 39. */
+    private static RollPlayer chain() {
+        RollPlayer x = new RollPlayer();
+        for (int i = 0; i < 39; i++) x.instrument(6);
+        x.instrument(0);
+        for (int i = 0; i < 39; i++) due.is("couple", x.couple(i, i + 1), 1);
+        x.chest(6, 1);
+        x.place(0, 0, 0);
+        for (int t = 0; t < 8; t++) x.wire(t, 0, 0);
+        x.roll();
+        return x;
+    }
+
+    private static void deepestCoupler() {
+        due.part("section 3: 40 levels");
+        RollPlayer x = chain();
+        due.is("the last has the first", x.couple(39, 0), BAD);
+        due.is("frequency(0)", x.frequency(0), Double.doubleToLongBits(440.0));
+        due.is("trace(13)", x.trace(13), 39);
+        due.is("trace(8)", x.trace(8), 1);
+        x.spoil(39, 2);
+        strip(x, 0, 3, 1, 0, 1);
+        x.play(0);
+        x.tick(1);
+        due.is("open(0)", x.open(0), 40);
+        for (int k = 0; k < 40; k++) due.is("sounding", x.sounding(k, 0), k);
+        due.is("loud(39)", x.loud(39), 1019);
+        x.tick(2);
+        due.is("open(0)", x.open(0), 0);
+        due.is("count(3)", x.count(3), 1 + 40 + 40 + 39 + 39 + 1);
+        due.is("trace(15)", x.trace(15), 78);
+        due.is("trace(14)", x.trace(14), 80);
+        due.is("trace(16)", x.trace(16), 79);
+        event(x, 159, 3, 2, 0, 10);
+        event(x, 158, 2, 2, 0, 0);
+        event(x, 120, 2, 2, 38, 0);
+    }
+
+    private static void mostThatSound() {
+        due.part("section 4: 320 sound");
+        RollPlayer x = chain();
+        strip(x, 0, 4, 255, 255, 254, 255);
+        x.play(0);
+        x.tick(1);
+        due.is("count(4)", x.count(4), 320);
+        for (int t = 0; t < 8; t++) due.is("open", x.open(t), 40);
+        due.is("sounding(319, 0)", x.sounding(319, 0), 39);
+        due.is("sounding(319, 1)", x.sounding(319, 1), 7);
+        due.is("sounding(320, 1)", x.sounding(320, 1), NONE);
+        x.tick(2);
+        due.is("count(4)", x.count(4), 280);
+        due.is("sounding(0, 1)", x.sounding(0, 1), 1);
+        x.tick(1);
+        due.is("sounding(319, 1)", x.sounding(319, 1), 0);
+        due.is("sounding(319, 2)", x.sounding(319, 2), 1);
+        due.is("back(2)", x.back(2), 2);
+        due.is("sounding(319, 1)", x.sounding(319, 1), 7);
+        due.is("sounding(319, 2)", x.sounding(319, 2), 2);
+        due.is("halt()", x.halt(), 320);
+    }
+
+    private static void mostStrips() {
+        due.part("promise 28: 400 STRIPS");
+        RollPlayer x = new RollPlayer();
+        x.roll();
+        for (int s = 0; s < 399; s++) x.strip(0, 0, 0, 0, 0);
+        x.strip(0, 0, 0, 0, 1);
+        due.is("play(0)", x.play(0), 400);
+        due.is("tick(2)", x.tick(2), 1);
+        due.is("count(3)", x.count(3), 400);
+        at(x, 24, 0, 1, 1, 399, 1, 1, 0, 1);
+    }
+
+    private static void lastInstrument() {
+        due.part("promise 37: INSTRUMENT 59");
+        RollPlayer x = new RollPlayer();
+        for (int i = 0; i < 60; i++) x.instrument(4);
+        x.chest(4, 1);
+        x.place(0, 0, 59);
+        x.wire(7, 0, 0);
+        x.roll();
+        strip(x, 0, 2, 128, 0);
+        x.play(0);
+        x.tick(2);
+        due.is("times(59, 0)", x.times(59, 0), 1);
+        due.is("times(59, 1)", x.times(59, 1), 1);
+        due.is("times(58, 1)", x.times(58, 1), 0);
+        due.is("times(60, 1)", x.times(60, 1), BAD);
+        event(x, 1, 1, 0, 59, 7);
+        event(x, 2, 2, 1, 59, 7);
     }
 }
