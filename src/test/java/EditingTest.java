@@ -26,22 +26,22 @@ public final class EditingTest {
     }
 
     /** ROLL 0 has n STRIPS of LEVELS, their NUMBERS from 0 on, of as many ELEMENTS as their NUMBERS; ROLL 1 has none. */
-    private static RollPlayer levels(int n) {
-        RollPlayer x = new RollPlayer();
+    private static Player levels(int n) {
+        Player x = new Player();
         x.roll();
         x.roll();
         for (int i = 0; i < n; i++) x.strip(0, 1, i, i, i);
         return x;
     }
 
-    private static void numbers(RollPlayer x, int roll, int... want) {
+    private static void numbers(Player x, int roll, int... want) {
         due.is("strips(" + roll + ")", x.strips(roll), want.length);
         for (int s = 0; s < want.length; s++) due.is("told(" + roll + ", " + s + ", 1)", x.told(roll, s, 1), want[s]);
     }
 
     private static void cutting() {
         due.part("promise 39");
-        RollPlayer x = levels(5);
+        Player x = levels(5);
         due.is("cut(0, -1)", x.cut(0, -1), BAD);
         due.is("cut(0, 6)", x.cut(0, 6), BAD);
         due.is("cut(2, 0)", x.cut(2, 0), BAD);
@@ -67,7 +67,7 @@ public final class EditingTest {
         due.is("cut(5, 3)", x.cut(5, 3), BAD);
         numbers(x, 5, 1, 2);
         due.part("promise 39: STRIPS go, none comes");
-        RollPlayer y = levels(0);
+        Player y = levels(0);
         for (int i = 0; i < 400; i++) y.strip(0, 0, 0, 0, 0);
         due.is("cut(0, 1)", y.cut(0, 1), 2);
         due.is("strips(2)", y.strips(2), 399);
@@ -76,7 +76,7 @@ public final class EditingTest {
 
     private static void joining() {
         due.part("promise 40");
-        RollPlayer x = levels(3);
+        Player x = levels(3);
         x.strip(1, 3, 9, 2, 7);
         x.strip(1, 0, 8, 1, 6);
         x.strip(1, 0, 7, 1, 5);
@@ -107,7 +107,7 @@ public final class EditingTest {
 
     private static void joiningAtMost() {
         due.part("promise 40, at most");
-        RollPlayer x = levels(0);
+        Player x = levels(0);
         for (int i = 0; i < 200; i++) x.strip(0, 0, 0, 0, 0);
         due.is("join(1, 0)", x.join(1, 0), 200);
         x.roll();
@@ -115,7 +115,7 @@ public final class EditingTest {
         due.is("status()", x.status(), FULL);
         due.is("strips(2)", x.strips(2), 0);
         due.is("join(0, 2) of none", x.join(0, 2), 200);
-        RollPlayer y = levels(0);
+        Player y = levels(0);
         for (int i = 0; i < 15; i++) y.strip(0, 3, 0, 256, 0);
         y.strip(0, 3, 0, 160, 0);
         due.is("count(6)", y.count(6), 4000);
@@ -130,7 +130,7 @@ public final class EditingTest {
 
     private static void repeating() {
         due.part("promise 41");
-        RollPlayer x = levels(4);
+        Player x = levels(4);
         x.lose(0, 2);
         due.is("repeat(0, 1, 2)", x.repeat(0, 1, 2), 6);
         numbers(x, 0, 0, 1, 2, 1, 2, 3);
@@ -149,7 +149,7 @@ public final class EditingTest {
         for (int[] b : bad) due.is("a bad repeat", x.repeat(b[0], b[1], b[2]), BAD);
         due.is("repeat(1, 0, 0)", x.repeat(1, 0, 0), 0);
         due.part("promise 41, at most");
-        RollPlayer y = levels(0);
+        Player y = levels(0);
         for (int i = 0; i < 395; i++) y.strip(0, 0, i, 0, 0);
         due.is("repeat(0, 0, 6)", y.repeat(0, 0, 6), FULL);
         due.is("repeat(0, 0, 5)", y.repeat(0, 0, 5), 400);
@@ -157,7 +157,7 @@ public final class EditingTest {
         due.is("repeat(0, 0, 0)", y.repeat(0, 0, 0), 400);
         due.is("told(0, 9, 1)", y.told(0, 9, 1), 4);
         due.is("told(0, 399, 1)", y.told(0, 399, 1), 394);
-        RollPlayer z = levels(0);
+        Player z = levels(0);
         for (int i = 0; i < 31; i++) z.strip(0, 0, i, 256, 0);
         z.strip(0, 0, 0, 32, 0);
         due.is("256 too many", z.repeat(0, 0, 1), FULL);
@@ -167,7 +167,7 @@ public final class EditingTest {
 
     private static void moving() {
         due.part("promise 42");
-        RollPlayer x = levels(4);
+        Player x = levels(4);
         for (int i = 0; i < 4; i++) x.strip(1, 1, 10 + i, 1, 9);
         x.punch(0, 1, 0, 77);
         due.is("move(0, 1, 2, 1, 0)", x.move(0, 1, 2, 1, 0), 2);
@@ -222,11 +222,11 @@ public final class EditingTest {
 
     private static void movingAmongItself() {
         due.part("promise 42: one by one in one ROLL");
-        RollPlayer x = levels(5);
+        Player x = levels(5);
         due.is("move(0, 1, 3, 0, 2)", x.move(0, 1, 3, 0, 2), 3);
         int[] lengths = {0, 1, 1, 1, 1};
         for (int s = 0; s < 5; s++) due.is("told(0, s, 3)", x.told(0, s, 3), lengths[s]);
-        RollPlayer y = levels(5);
+        Player y = levels(5);
         due.is("move(0, 2, 3, 0, 1)", y.move(0, 2, 3, 0, 1), 3);
         int[] then = {0, 2, 3, 4, 4};
         for (int s = 0; s < 5; s++) due.is("told(0, s, 3)", y.told(0, s, 3), then[s]);
@@ -237,7 +237,7 @@ public final class EditingTest {
 
     private static void movingAtMost() {
         due.part("promise 42, at most");
-        RollPlayer x = levels(0);
+        Player x = levels(0);
         for (int i = 0; i < 31; i++) x.strip(0, 0, 0, 256, 0);
         x.strip(1, 0, 0, 32, 0);
         x.strip(1, 0, 0, 16, 0);
@@ -259,7 +259,7 @@ public final class EditingTest {
 
     private static void copying() {
         due.part("promise 43");
-        RollPlayer x = levels(0);
+        Player x = levels(0);
         x.strip(0, 1, 0, 6, 0);
         x.strip(1, 1, 0, 4, 0);
         x.strip(1, 2, 0, 4, 0);
@@ -322,7 +322,7 @@ public final class EditingTest {
 
     private static void transposing() {
         due.part("promises 44 and 45");
-        RollPlayer x = levels(0);
+        Player x = levels(0);
         x.strip(0, 0, 5, 4, 0);
         int[] holes = {0x81, 0x00, 0xff, 0x18};
         for (int k = 0; k < 4; k++) x.punch(0, 0, k, holes[k]);
@@ -376,7 +376,7 @@ public final class EditingTest {
 
     private static void transposingRefused() {
         due.part("promise 44, refused");
-        RollPlayer x = levels(2);
+        Player x = levels(2);
         x.strip(1, 0, 0, 1, 0);
         x.punch(1, 0, 0, 3);
         due.is("transpose(1, 0, -1)", x.transpose(1, 0, -1), 1);
@@ -401,7 +401,7 @@ public final class EditingTest {
 
     private static void mending() {
         due.part("promise 46");
-        RollPlayer x = levels(0);
+        Player x = levels(0);
         x.strip(0, 1, 5, 2, 0);
         x.strip(1, 0, 5, 1, 0);
         x.strip(1, 1, 4, 1, 0);
@@ -447,7 +447,7 @@ public final class EditingTest {
 
     private static void mendingAtMost() {
         due.part("promise 46, at most");
-        RollPlayer x = levels(0);
+        Player x = levels(0);
         for (int i = 0; i < 31; i++) x.strip(0, 0, i, 256, 0);
         x.strip(1, 0, 40, 33, 0);
         x.strip(1, 0, 40, 10, 0);
@@ -467,7 +467,7 @@ public final class EditingTest {
 
     private static void equality() {
         due.part("promise 47");
-        RollPlayer x = levels(3);
+        Player x = levels(3);
         due.is("equal(0, 2)", x.equal(0, 2), BAD);
         due.is("equal(-1, 0)", x.equal(-1, 0), BAD);
         due.is("equal(0, 1)", x.equal(0, 1), 0);
@@ -499,7 +499,7 @@ public final class EditingTest {
         due.is("equal(0, 1)", x.equal(0, 1), 1);
         int[][] unlike = {{0, 0, 0, 0}, {1, 1, 0, 0}, {1, 0, 0, 1}};
         for (int[] u : unlike) {
-            RollPlayer y = levels(0);
+            Player y = levels(0);
             y.strip(0, 1, 0, 0, 0);
             y.strip(1, u[0], u[1], u[2], u[3]);
             y.lose(0, 0);
@@ -513,7 +513,7 @@ public final class EditingTest {
 
     private static void digests() {
         due.part("promise 48");
-        RollPlayer x = levels(0);
+        Player x = levels(0);
         due.is("digest(0)", x.digest(0), 7);
         due.is("status()", x.status(), 0);
         due.is("digest(2)", x.digest(2), 0);
@@ -534,7 +534,7 @@ public final class EditingTest {
 
     private static void busy() {
         due.part("promises 39 to 48 while a ROLL is PLAYED");
-        RollPlayer x = levels(2);
+        Player x = levels(2);
         x.strip(1, 0, 0, 1, 0);
         x.play(0);
         due.is("cut", x.cut(0, 0), BUSY);

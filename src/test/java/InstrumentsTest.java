@@ -25,19 +25,19 @@ public final class InstrumentsTest {
     }
 
     /** One INSTRUMENT of each KIND, numbered as their KINDS are. */
-    private static RollPlayer seven() {
-        RollPlayer x = new RollPlayer();
+    private static Player seven() {
+        Player x = new Player();
         for (int kind = 0; kind < 7; kind++) x.instrument(kind);
         return x;
     }
 
-    private static void frequency(RollPlayer x, int instrument, double want) {
+    private static void frequency(Player x, int instrument, double want) {
         due.is("frequency(" + instrument + ")", x.frequency(instrument), Double.doubleToLongBits(want));
     }
 
     private static void instruments() {
         due.part("promise 16");
-        RollPlayer x = new RollPlayer();
+        Player x = new Player();
         due.is("instrument(-1)", x.instrument(-1), BAD);
         due.is("instrument(7)", x.instrument(7), BAD);
         for (int i = 0; i < 60; i++) due.is("instrument", x.instrument(i % 7), i);
@@ -49,7 +49,7 @@ public final class InstrumentsTest {
 
     private static void coupling() {
         due.part("promise 17");
-        RollPlayer x = seven();
+        Player x = seven();
         x.instrument(6);
         x.instrument(6);
         due.is("couple(6, 6)", x.couple(6, 6), BAD);
@@ -82,7 +82,7 @@ public final class InstrumentsTest {
 
     private static void sizes() {
         due.part("promise 17, SIZES");
-        RollPlayer x = new RollPlayer();
+        Player x = new Player();
         for (int i = 0; i < 42; i++) x.instrument(6);
         for (int i = 0; i < 39; i++) due.is("couple", x.couple(i, i + 1), 1);
         due.is("the outermost has 40", x.couple(39, 40), FULL);
@@ -92,7 +92,7 @@ public final class InstrumentsTest {
         due.is("couple(40, 1)", x.couple(40, 1), 1);
         due.is("couple(40, 41)", x.couple(40, 41), FULL);
 
-        RollPlayer y = new RollPlayer();
+        Player y = new Player();
         for (int i = 0; i < 3; i++) y.instrument(6);
         y.instrument(0);
         for (int n = 1; n <= 4; n++) due.is("couple(0, 1)", y.couple(0, 1), n);
@@ -102,7 +102,7 @@ public final class InstrumentsTest {
         due.is("members(0)", y.members(0), 7);
         due.is("couple(2, 1)", y.couple(2, 1), 1);
 
-        RollPlayer z = new RollPlayer();
+        Player z = new Player();
         for (int i = 0; i < 3; i++) z.instrument(6);
         z.instrument(3);
         for (int n = 1; n <= 8; n++) z.couple(0, 1);
@@ -119,7 +119,7 @@ public final class InstrumentsTest {
 
     private static void chests() {
         due.part("promise 18");
-        RollPlayer x = new RollPlayer();
+        Player x = new Player();
         due.is("chest(-1, 1)", x.chest(-1, 1), BAD);
         due.is("chest(8, 1)", x.chest(8, 1), BAD);
         due.is("chest(8, -1)", x.chest(8, -1), BAD);
@@ -136,7 +136,7 @@ public final class InstrumentsTest {
         due.is("FULL comes ahead of SIZE", x.chest(7, -1), FULL);
         due.is("count(2)", x.count(2), 16);
         due.is("count(7)", x.count(7), 200);
-        RollPlayer y = new RollPlayer();
+        Player y = new Player();
         due.is("chest(6, 0)", y.chest(6, 0), 0);
         due.is("place(0, 0, -1)", y.place(0, 0, -1), TORN);
         due.is("chest(6, 200)", y.chest(6, 200), 1);
@@ -145,7 +145,7 @@ public final class InstrumentsTest {
 
     private static void placing() {
         due.part("promise 19");
-        RollPlayer x = seven();
+        Player x = seven();
         for (int kind = 0; kind < 8; kind++) x.chest(kind, 2);
         String[] takes = {"012", "12", "2", "3", "45", "5", "6", "0123456"};
         for (int c = 0; c < 8; c++) {
@@ -169,7 +169,7 @@ public final class InstrumentsTest {
 
     private static void wiring() {
         due.part("promise 20");
-        RollPlayer x = new RollPlayer();
+        Player x = new Player();
         x.chest(7, 1);
         due.is("wire(-1, 0, 0)", x.wire(-1, 0, 0), BAD);
         due.is("wire(8, 0, 0)", x.wire(8, 0, 0), BAD);
@@ -203,7 +203,7 @@ public final class InstrumentsTest {
 
     private static void spoiling() {
         due.part("promise 21");
-        RollPlayer x = seven();
+        Player x = seven();
         due.is("spoil(0, 1000)", x.spoil(0, 1000), 0);
         due.is("spoil(0, 3)", x.spoil(0, 3), 1000);
         due.is("spoil(0, 1001)", x.spoil(0, 1001), BAD);
@@ -235,7 +235,7 @@ public final class InstrumentsTest {
 
     private static void tuning() {
         due.part("promise 22");
-        RollPlayer x = seven();
+        Player x = seven();
         for (int i = 0; i < 7; i++) {
             boolean none = i == 3 || i == 6;
             due.is("tune(" + i + ", 2, 3)", x.tune(i, 2, 3), none ? KIND : 1);
@@ -259,7 +259,7 @@ public final class InstrumentsTest {
 
     private static void bases() {
         due.part("promise 23");
-        RollPlayer x = seven();
+        Player x = seven();
         due.is("base(0)", x.base(0), BAD);
         due.is("base(-1)", x.base(-1), BAD);
         due.is("base(32001)", x.base(32001), BAD);
@@ -274,7 +274,7 @@ public final class InstrumentsTest {
 
     private static void frequencies() {
         due.part("promise 24");
-        RollPlayer x = seven();
+        Player x = seven();
         double third = 440.0 * (1.0 / 3.0);
         for (int i : new int[] {0, 1, 2, 4, 5}) x.tune(i, 1, 3);
         frequency(x, 0, third);
@@ -337,7 +337,7 @@ public final class InstrumentsTest {
 
     private static void couplersFrequency() {
         due.part("promise 24: COUPLERS");
-        RollPlayer x = seven();
+        Player x = seven();
         x.instrument(6);
         x.couple(6, 3);
         due.is("a DRUM has none", x.frequency(6), NO_NUMBER);
@@ -366,7 +366,7 @@ public final class InstrumentsTest {
 
     private static void muteAndHigher() {
         due.part("promises 25 and 26");
-        RollPlayer x = seven();
+        Player x = seven();
         int[] mute = {0, 0, 0, KIND, 0, 0, 1};
         for (int i = 0; i < 7; i++) due.is("mute(" + i + ")", x.mute(i), mute[i]);
         due.is("mute(7)", x.mute(7), BAD);
@@ -403,7 +403,7 @@ public final class InstrumentsTest {
 
     private static void busy() {
         due.part("promises 16 to 26 while a ROLL is PLAYED");
-        RollPlayer x = seven();
+        Player x = seven();
         x.chest(7, 1);
         x.roll();
         x.play(0);

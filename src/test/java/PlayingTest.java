@@ -34,8 +34,8 @@ public final class PlayingTest {
     }
 
     /** INSTRUMENTS 0 .. 6 by their KINDS at PLACES 0 .. 6 of CHEST 0, PLACE 7 is empty; TRACK t goes to PLACE t. */
-    private static RollPlayer organ() {
-        RollPlayer x = new RollPlayer();
+    private static Player organ() {
+        Player x = new Player();
         x.chest(7, 8);
         for (int i = 0; i < 7; i++) {
             x.instrument(i);
@@ -46,13 +46,13 @@ public final class PlayingTest {
         return x;
     }
 
-    private static int strip(RollPlayer x, int kind, int ticks, int... elements) {
+    private static int strip(Player x, int kind, int ticks, int... elements) {
         int s = x.strip(0, kind, 0, elements.length, ticks);
         for (int k = 0; k < elements.length; k++) x.punch(0, s, k, elements[k]);
         return s;
     }
 
-    private static void event(RollPlayer x, int k, int sort, int gone, int what, int rest) {
+    private static void event(Player x, int k, int sort, int gone, int what, int rest) {
         due.is("event(" + k + ", 0)", x.event(k, 0), sort);
         due.is("event(" + k + ", 1)", x.event(k, 1), gone);
         due.is("event(" + k + ", 2)", x.event(k, 2), what);
@@ -60,13 +60,13 @@ public final class PlayingTest {
     }
 
     /** TEMPO, BEAT, PHASE, TICKS GONE, STRIP, its TICKS, whether it is WHOLE, whether a ROLL is PLAYED. */
-    private static void at(RollPlayer x, int... want) {
+    private static void at(Player x, int... want) {
         for (int what = 0; what < want.length; what++) due.is("at(" + what + ")", x.at(what), want[what]);
     }
 
     private static void beginning() {
         due.part("promise 27");
-        RollPlayer x = organ();
+        Player x = organ();
         due.is("play(-1)", x.play(-1), BAD);
         due.is("play(1)", x.play(1), BAD);
         at(x, 0, 0, 0, 0, NONE, 0, 0, 0, 0);
@@ -97,7 +97,7 @@ public final class PlayingTest {
 
     private static void beginningAnew() {
         due.part("promise 27: all is anew");
-        RollPlayer x = organ();
+        Player x = organ();
         strip(x, 1, 0, 0x9005);
         strip(x, 2, 0, 'a', 'c');
         strip(x, 3, 1, 1 << 18 | 3);
@@ -133,7 +133,7 @@ public final class PlayingTest {
 
     private static void ticking() {
         due.part("promise 28");
-        RollPlayer x = organ();
+        Player x = organ();
         due.is("tick(1)", x.tick(1), NONE);
         due.is("tick(-1)", x.tick(-1), BAD);
         due.is("tick(501)", x.tick(501), BAD);
@@ -179,7 +179,7 @@ public final class PlayingTest {
 
     private static void strips() {
         due.part("promise 28: STRIPS that are not WHOLE");
-        RollPlayer x = organ();
+        Player x = organ();
         strip(x, 0, 2, 0x0b);
         strip(x, 0, 3, 0xff, 0xff);
         strip(x, 0, 2, 0x03);
@@ -205,7 +205,7 @@ public final class PlayingTest {
         event(x, 9, 1, 5, 0, 0);
         event(x, 10, 1, 5, 1, 1);
         due.part("promise 28: every FINDING");
-        RollPlayer y = organ();
+        Player y = organ();
         for (int s = 0; s < 8; s++) strip(y, 1, 1, 5, 6);
         y.lose(0, 0);
         y.tear(0, 1, 8);
@@ -221,7 +221,7 @@ public final class PlayingTest {
         due.is("only the last did something", y.level(0), 5);
         due.is("status()", y.status(), 0);
         due.part("promise 28: HOLES stay open from STRIP to STRIP");
-        RollPlayer z = organ();
+        Player z = organ();
         strip(z, 0, 1, 1);
         strip(z, 1, 1, 0);
         strip(z, 0, 2, 1, 0);
@@ -235,7 +235,7 @@ public final class PlayingTest {
 
     private static void stripsOfNoTicks() {
         due.part("promise 28: STRIPS of 0 TICKS");
-        RollPlayer x = organ();
+        Player x = organ();
         strip(x, 0, 0, 1, 3, 0, 2);
         strip(x, 1, 0, 0x1007, 0x1008);
         strip(x, 0, 1);
@@ -261,7 +261,7 @@ public final class PlayingTest {
         due.is("count(3)", x.count(3), 12);
         at(x, 24, 0, 1, 1, 3, 0, 1, 0, 1);
         due.part("promise 28: one of 0 TICKS that is not WHOLE");
-        RollPlayer y = organ();
+        Player y = organ();
         strip(y, 0, 1, 1);
         strip(y, 0, 0, 255);
         strip(y, 1, 1, 9);
@@ -275,7 +275,7 @@ public final class PlayingTest {
         due.is("count(3)", y.count(3), 5);
         at(y, 24, 0, 2, 2, 2, 1, 1, 1, 2);
         due.part("promise 28: nothing but STRIPS of 0 TICKS");
-        RollPlayer z = organ();
+        Player z = organ();
         for (int s = 0; s < 50; s++) strip(z, 0, 0, 1);
         z.repeat(0, 0, 8);
         z.play(0);
@@ -286,7 +286,7 @@ public final class PlayingTest {
 
     private static void allTicks() {
         due.part("promise 28: 20000 TICKS");
-        RollPlayer x = organ();
+        Player x = organ();
         for (int s = 0; s < 80; s++) x.strip(0, 0, 0, 0, 256);
         x.punch(0, x.strip(0, 0, 0, 0, 256), 0, 1);
         x.play(0);
@@ -313,7 +313,7 @@ public final class PlayingTest {
 
     private static void halting() {
         due.part("promise 29");
-        RollPlayer x = organ();
+        Player x = organ();
         due.is("halt()", x.halt(), NONE);
         strip(x, 0, 3, 0x8f);
         x.couple(6, 0);
@@ -338,7 +338,7 @@ public final class PlayingTest {
 
     private static void goingBack() {
         due.part("promise 30");
-        RollPlayer x = organ();
+        Player x = organ();
         due.is("back(0)", x.back(0), NONE);
         due.is("back(-1)", x.back(-1), BAD);
         due.is("back(501)", x.back(501), BAD);
@@ -397,7 +397,7 @@ public final class PlayingTest {
 
     private static void whatIsKept() {
         due.part("promise 30: what is kept");
-        RollPlayer x = organ();
+        Player x = organ();
         for (int s = 0; s < 9; s++) x.strip(0, 0, 0, 0, 256);
         x.play(0);
         x.tick(500);
@@ -430,7 +430,7 @@ public final class PlayingTest {
 
     private static void opening() {
         due.part("promise 31");
-        RollPlayer x = organ();
+        Player x = organ();
         due.is("open(-1)", x.open(-1), BAD);
         due.is("open(8)", x.open(8), BAD);
         x.wire(5, -1, 0);
@@ -457,7 +457,7 @@ public final class PlayingTest {
 
     private static void couplers() {
         due.part("section 3, TO OPEN");
-        RollPlayer x = organ();
+        Player x = organ();
         for (int m : new int[] {0, 1, 3}) x.couple(6, m);
         x.spoil(3, 1);
         strip(x, 0, 4, 0x40, 0, 0x40, 0);
@@ -500,7 +500,7 @@ public final class PlayingTest {
 
     private static void couplersInCouplers() {
         due.part("section 3, COUPLERS of COUPLERS");
-        RollPlayer x = organ();
+        Player x = organ();
         x.instrument(6);
         x.instrument(6);
         x.couple(6, 0);
@@ -537,7 +537,7 @@ public final class PlayingTest {
 
     private static void soundingInOrder() {
         due.part("promise 32");
-        RollPlayer x = organ();
+        Player x = organ();
         strip(x, 0, 5, 0x0a, 0x0f, 0x0d, 0x0f);
         x.play(0);
         x.tick(4);
@@ -556,7 +556,7 @@ public final class PlayingTest {
 
     private static void loudness() {
         due.part("promise 33");
-        RollPlayer x = organ();
+        Player x = organ();
         x.couple(6, 5);
         strip(x, 0, 4, 0x7f, 0x7f, 0x7f, 0x7f);
         strip(x, 1, 1, 0x8003);
@@ -592,7 +592,7 @@ public final class PlayingTest {
 
     private static void levels() {
         due.part("promise 34");
-        RollPlayer x = organ();
+        Player x = organ();
         due.is("level(-1)", x.level(-1), BAD);
         due.is("level(8)", x.level(8), BAD);
         due.is("level(7)", x.level(7), 0);
@@ -614,7 +614,7 @@ public final class PlayingTest {
 
     private static void stops() {
         due.part("promise 35");
-        RollPlayer x = organ();
+        Player x = organ();
         due.is("stop(-1)", x.stop(-1), BAD);
         due.is("stop(16)", x.stop(16), BAD);
         due.is("stop(15)", x.stop(15), 0);
@@ -645,7 +645,7 @@ public final class PlayingTest {
 
     private static void tempo() {
         due.part("promise 36: TEMPO");
-        RollPlayer x = organ();
+        Player x = organ();
         strip(x, 3, 4, 3 << 16 | 4);
         strip(x, 3, 3, 2 << 16 | 9);
         strip(x, 3, 2, 7 << 16, 30);
@@ -657,7 +657,7 @@ public final class PlayingTest {
             due.is("TEMPO behind tick " + (k + 1), x.at(0), want[k]);
         }
         due.part("promise 36: TEMPO exactly");
-        RollPlayer y = organ();
+        Player y = organ();
         strip(y, 3, 0, 1);
         strip(y, 3, 256, 0xffffffff);
         strip(y, 3, 256);
@@ -665,7 +665,7 @@ public final class PlayingTest {
         y.tick(500);
         due.is("1 + floor((65534 * 500 * 2 + 65535) / 131070)", y.at(0), 501);
         y.halt();
-        RollPlayer z = organ();
+        Player z = organ();
         strip(z, 3, 0, 65535);
         strip(z, 3, 256, 60000 << 16 | 1);
         strip(z, 3, 256);
@@ -673,7 +673,7 @@ public final class PlayingTest {
         z.tick(500);
         due.is("65535 + floor((-65534 * 500 * 2 + 60000) / 120000)", z.at(0), 65535 - 546);
         due.part("promise 36: of two TEMPI the later, from what it is");
-        RollPlayer w = organ();
+        Player w = organ();
         strip(w, 3, 3, 10 << 16 | 34, 2 << 16 | 5);
         w.play(0);
         w.tick(1);
@@ -686,7 +686,7 @@ public final class PlayingTest {
 
     private static void beats() {
         due.part("promise 36");
-        RollPlayer x = organ();
+        Player x = organ();
         due.is("at(-1)", x.at(-1), BAD);
         due.is("at(9)", x.at(9), BAD);
         due.is("at(4)", x.at(4), NONE);
@@ -712,7 +712,7 @@ public final class PlayingTest {
 
     private static void times() {
         due.part("promise 37");
-        RollPlayer x = organ();
+        Player x = organ();
         due.is("times(0, 0)", x.times(0, 0), 0);
         due.is("times(7, 0)", x.times(7, 0), BAD);
         due.is("times(-1, 0)", x.times(-1, 0), BAD);
@@ -738,7 +738,7 @@ public final class PlayingTest {
 
     private static void eventsAtMost() {
         due.part("promise 38");
-        RollPlayer x = organ();
+        Player x = organ();
         for (int i = 0; i < 8; i++) x.wire(i, 0, 0);
         int s = x.strip(0, 0, 0, 256, 0);
         for (int k = 0; k < 256; k += 2) x.punch(0, s, k, 255);
@@ -763,8 +763,8 @@ public final class PlayingTest {
     }
 
     /** 39 COUPLERS, each the MEMBER of the one ahead of it, and a PIPE: INSTRUMENTS 0 .. 38 and 39. */
-    private static RollPlayer chain() {
-        RollPlayer x = new RollPlayer();
+    private static Player chain() {
+        Player x = new Player();
         for (int i = 0; i < 39; i++) x.instrument(6);
         x.instrument(0);
         for (int i = 0; i < 39; i++) due.is("couple", x.couple(i, i + 1), 1);
@@ -777,7 +777,7 @@ public final class PlayingTest {
 
     private static void deepestCoupler() {
         due.part("section 3: 40 levels");
-        RollPlayer x = chain();
+        Player x = chain();
         due.is("the last has the first", x.couple(39, 0), BAD);
         due.is("frequency(0)", x.frequency(0), Double.doubleToLongBits(440.0));
         due.is("trace(13)", x.trace(13), 39);
@@ -802,7 +802,7 @@ public final class PlayingTest {
 
     private static void mostThatSound() {
         due.part("section 4: 320 sound");
-        RollPlayer x = chain();
+        Player x = chain();
         strip(x, 0, 4, 255, 255, 254, 255);
         x.play(0);
         x.tick(1);
@@ -825,7 +825,7 @@ public final class PlayingTest {
 
     private static void mostStrips() {
         due.part("promise 28: 400 STRIPS");
-        RollPlayer x = new RollPlayer();
+        Player x = new Player();
         x.roll();
         for (int s = 0; s < 399; s++) x.strip(0, 0, 0, 0, 0);
         x.strip(0, 0, 0, 0, 1);
@@ -837,7 +837,7 @@ public final class PlayingTest {
 
     private static void lastInstrument() {
         due.part("promise 37: INSTRUMENT 59");
-        RollPlayer x = new RollPlayer();
+        Player x = new Player();
         for (int i = 0; i < 60; i++) x.instrument(4);
         x.chest(4, 1);
         x.place(0, 0, 59);

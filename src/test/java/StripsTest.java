@@ -25,8 +25,8 @@ public final class StripsTest {
         due.end();
     }
 
-    private static RollPlayer playing() {
-        RollPlayer x = new RollPlayer();
+    private static Player playing() {
+        Player x = new Player();
         x.roll();
         x.strip(0, 0, 1, 2, 2);
         x.play(0);
@@ -35,7 +35,7 @@ public final class StripsTest {
 
     private static void newObject() {
         due.part("promise 1");
-        RollPlayer x = new RollPlayer();
+        Player x = new Player();
         due.is("status()", x.status(), 0);
         for (int what = 0; what < 8; what++) due.is("count(" + what + ")", x.count(what), 0);
         for (int b = 0; b < 17; b++) due.is("trace(" + b + ")", x.trace(b), 0);
@@ -51,7 +51,7 @@ public final class StripsTest {
 
     private static void rolls() {
         due.part("promise 2");
-        RollPlayer x = new RollPlayer();
+        Player x = new Player();
         for (int i = 0; i < 20; i++) due.is("roll()", x.roll(), i);
         due.is("strips(19)", x.strips(19), 0);
         due.is("roll()", x.roll(), FULL);
@@ -64,7 +64,7 @@ public final class StripsTest {
 
     private static void strips() {
         due.part("promise 3");
-        RollPlayer x = new RollPlayer();
+        Player x = new Player();
         due.is("strip(0, 0, 0, 0, 0)", x.strip(0, 0, 0, 0, 0), BAD);
         x.roll();
         x.roll();
@@ -93,7 +93,7 @@ public final class StripsTest {
 
     private static void stripsAtMost() {
         due.part("promise 3, at most");
-        RollPlayer x = new RollPlayer();
+        Player x = new Player();
         x.roll();
         x.roll();
         for (int i = 0; i < 399; i++) due.is("strip", x.strip(0, 0, 0, 0, 0), i);
@@ -102,7 +102,7 @@ public final class StripsTest {
         due.is("FULL comes ahead of SIZE", x.strip(1, 0, 0, -1, 0), FULL);
         due.is("BAD comes ahead of FULL", x.strip(1, 0, 0, 257, 0), BAD);
 
-        RollPlayer y = new RollPlayer();
+        Player y = new Player();
         y.roll();
         for (int i = 0; i < 31; i++) due.is("strip", y.strip(0, i % 4, 0, 256, 0), i);
         due.is("strip of 65", y.strip(0, 0, 0, 65, 0), FULL);
@@ -122,7 +122,7 @@ public final class StripsTest {
 
     private static void punching() {
         due.part("promise 4");
-        RollPlayer x = new RollPlayer();
+        Player x = new Player();
         x.roll();
         for (int kind = 0; kind < 4; kind++) x.strip(0, kind, 0, 2, 0);
         int v = 0x12345678;
@@ -172,7 +172,7 @@ public final class StripsTest {
 
     private static void sealing() {
         due.part("promise 5");
-        RollPlayer x = new RollPlayer();
+        Player x = new Player();
         x.roll();
         x.strip(0, 1, 300, 3, 0);
         for (int i = 0; i < 9; i++) x.damage(0, 0, i, 0x5a);
@@ -198,7 +198,7 @@ public final class StripsTest {
 
     private static void losing() {
         due.part("promise 6");
-        RollPlayer x = new RollPlayer();
+        Player x = new Player();
         x.roll();
         x.strip(0, 1, 3, 3, 7);
         due.is("lose(0, 0)", x.lose(0, 0), 1);
@@ -217,7 +217,7 @@ public final class StripsTest {
 
     private static void tearing() {
         due.part("promise 7");
-        RollPlayer x = new RollPlayer();
+        Player x = new Player();
         x.roll();
         x.strip(0, 3, 0, 4, 0);
         due.is("tear all stays", x.tear(0, 0, MAX), 4);
@@ -251,7 +251,7 @@ public final class StripsTest {
 
     private static void damaging() {
         due.part("promise 8");
-        RollPlayer x = new RollPlayer();
+        Player x = new Player();
         x.roll();
         x.strip(0, 0, 0, 1, 0);
         due.is("damage(0, 0, 9, -1)", x.damage(0, 0, 9, -1), 255);
@@ -270,7 +270,7 @@ public final class StripsTest {
 
     private static void bytesAndHeads() {
         due.part("promises 9 and 10");
-        RollPlayer x = new RollPlayer();
+        Player x = new Player();
         x.roll();
         x.strip(0, 2, 0x1234, 256, 0);
         int[] head = {2, 0x12, 0x34, 1, 0};
@@ -314,7 +314,7 @@ public final class StripsTest {
 
     private static void sums() {
         due.part("promise 11");
-        RollPlayer x = new RollPlayer();
+        Player x = new Player();
         x.roll();
         x.strip(0, 0, 5, 0, 0);
         due.is("sum(0, 0)", x.sum(0, 0), 28629151 + 5 * 31 * 31);
@@ -341,7 +341,7 @@ public final class StripsTest {
 
     private static void reading() {
         due.part("promise 12");
-        RollPlayer x = new RollPlayer();
+        Player x = new Player();
         x.roll();
         x.strip(0, 1, 0, 3, 0);
         due.is("read(0, 0)", x.read(0, 0), 3);
@@ -380,7 +380,7 @@ public final class StripsTest {
 
     private static void wholeAndFinding() {
         due.part("promises 13 and 14");
-        RollPlayer x = new RollPlayer();
+        Player x = new Player();
         due.is("whole(0)", x.whole(0), BAD);
         due.is("finding(0, 0)", x.finding(0, 0), BAD);
         x.roll();
@@ -405,7 +405,7 @@ public final class StripsTest {
 
     private static void told() {
         due.part("promise 15");
-        RollPlayer x = new RollPlayer();
+        Player x = new Player();
         x.roll();
         x.strip(0, 2, 30000, 5, 256);
         int[] list = {2, 30000, 256, 5};
@@ -424,7 +424,7 @@ public final class StripsTest {
 
     private static void busy() {
         due.part("promises 3 to 15 while a ROLL is PLAYED");
-        RollPlayer x = playing();
+        Player x = playing();
         due.is("strip", x.strip(0, 0, 0, 0, 0), BUSY);
         due.is("strip below 0", x.strip(0, 0, 0, -1, 0), BUSY);
         due.is("punch", x.punch(0, 0, 0, 1), BUSY);

@@ -54,7 +54,7 @@ public final class ToldTest {
 
     private static void counts() {
         due.part("promise 49");
-        RollPlayer x = new RollPlayer();
+        Player x = new Player();
         for (int r = 0; r < 3; r++) x.roll();
         for (int i = 0; i < 4; i++) x.instrument(0);
         for (int c = 0; c < 2; c++) x.chest(7, 3);
@@ -78,7 +78,7 @@ public final class ToldTest {
 
     private static void stripsAndMembers() {
         due.part("promises 50 and 51");
-        RollPlayer x = new RollPlayer();
+        Player x = new Player();
         due.is("strips(0)", x.strips(0), BAD);
         x.roll();
         due.is("strips(0)", x.strips(0), 0);
@@ -100,7 +100,7 @@ public final class ToldTest {
 
     private static void traces() {
         due.part("promise 52");
-        RollPlayer x = new RollPlayer();
+        Player x = new Player();
         due.is("trace(-1)", x.trace(-1), BAD);
         due.is("trace(17)", x.trace(17), BAD);
         due.is("status()", x.status(), BAD);
@@ -131,7 +131,7 @@ public final class ToldTest {
 
     private static void statuses() {
         due.part("promise 53");
-        RollPlayer x = new RollPlayer();
+        Player x = new Player();
         due.is("status()", x.status(), 0);
         x.strips(0);
         due.is("BAD", x.status(), BAD);
@@ -189,7 +189,7 @@ public final class ToldTest {
 
     private static void statusIsNotChangedByStatus() {
         due.part("promise 53: but status()");
-        RollPlayer x = new RollPlayer();
+        Player x = new Player();
         x.count(9);
         for (int i = 0; i < 3; i++) due.is("status()", x.status(), BAD);
         due.is("play(0)", x.play(0), BAD);
