@@ -108,10 +108,12 @@ public final class EditingEdgesTest {
 
     @Says("41: Copies of n STRIPS from place i on come right behind these: how many it has")
     static void repeatRightBehind(Due due) {
-        numbers(levels(due, 3).isWith(0, "repeat(0, 0, 1)", 4), 0, 0, 0, 1, 2);
-        numbers(levels(due, 3).is("repeat(0, 2, 1)", 4), 0, 0, 1, 2, 2);
-        numbers(levels(due, 3).is("repeat(0, 0, 2)", 5), 0, 0, 1, 0, 1, 2);
-        numbers(levels(due, 3).is("repeat(0, 1, 2)", 5), 0, 0, 1, 2, 1, 2);
+        numbers(levels(due, 3).isWith(0, "repeat(0, 0, 1)", 4), 0, 0, 0, 1, 2).is("count(6)", 3);
+        numbers(levels(due, 3).is("repeat(0, 1, 1)", 4), 0, 0, 1, 1, 2).is("count(6)", 4);
+        numbers(levels(due, 3).is("repeat(0, 2, 1)", 4), 0, 0, 1, 2, 2).is("count(6)", 5);
+        numbers(levels(due, 3).is("repeat(0, 0, 2)", 5), 0, 0, 1, 0, 1, 2).is("count(6)", 4);
+        numbers(levels(due, 3).is("repeat(0, 1, 2)", 5), 0, 0, 1, 2, 1, 2).is("count(6)", 6);
+        numbers(levels(due, 3).is("repeat(0, 0, 3)", 6), 0, 0, 1, 2, 0, 1, 2).is("count(6)", 6);
         numbers(levels(due, 8).is("repeat(0, 0, 8)", 16), 0, 0, 1, 2, 3, 4, 5, 6, 7, 0, 1, 2, 3, 4, 5, 6, 7);
         Run r = new Run(due);
         Scenes.rest(r);
@@ -156,6 +158,18 @@ public final class EditingEdgesTest {
         r.row("told(2, 0, *)", 1, 4, 1, 3).does("punch(2, 0, 0, 9)").is("byteOf(0, 3, 10)", 0).is("equal(0, 2)", 0);
         levels(due, 8).is("cut(0, 0)", 2).is("join(0, 2)", 8).isWith(0, "move(2, 0, 8, 0, 0)", 8).is("equal(0, 2)", 1);
         levels(due, 2).isWith(0, "move(0, 0, 0, 0, 0)", 0).isWith(0, "move(0, MAX, 0, 1, MIN)", 0);
+    }
+
+    @Says("42: BYTES .. come as a copy .. in place of those there: of 256 ELEMENTS to a STRIP of none, and back")
+    static void moveLongAndShort(Due due) {
+        for (int kind = 0; kind < 4; kind++) {
+            Run r = new Run(due).does("roll()", "strip(0, " + kind + ", 1, 256, 0)", "strip(0, " + kind + ", 2, 0, 0)",
+                "strip(0, " + kind + ", 3, 1, 0)", "punch(0, 0, 255, 77)");
+            r.isWith(0, "move(0, 0, 1, 0, 1)", 1).is("read(0, 1)", 256).is("count(6)", 513).is("sum(0, 1)", r.ask("sum(0, 0)"));
+            r.isWith(0, "move(0, 2, 1, 0, 0)", 1).is("read(0, 0)", 1).is("count(6)", 258).isWith(0, "move(0, 1, 1, 0, 2)", 1);
+            r.is("read(0, 2)", 256).is("count(6)", 513).is("equal(0, 0)", 1).is("punch(0, 1, 255, 78)", 1).is("read(0, 2)", 256);
+            r.is("tear(0, 2, 5)", 0).isWith(0, "move(0, 2, 1, 0, 1)", 1).is("read(0, 1)", TORN).is("byteOf(0, 1, 5)", TORN).is("count(6)", 1);
+        }
     }
 
     @Says("42: It ends earlier, and status() tells why, at: TORN: one of both is not there (i, j are any numbers)")
@@ -262,6 +276,15 @@ public final class EditingEdgesTest {
         new Run(due).does("roll()", "strip(0, 0, 0, 3, 0)", "tear(0, 0, 4)").is("copy(0, 0, 0, 0, 0, 0, 0)", 0);
     }
 
+    @Says("43: KIND: unlike ones .. SPAN: they are not there: by THE LIST and the ELEMENTS, whatever HEADS tell")
+    static void copyWhateverHeadsTell(Due due) {
+        Run r = new Run(due).does("roll()").strip(1, 0, 1, 2, 3).strip(1, 0, 4, 5, 6).strip(0, 0, 7, 8, 9);
+        r.does("damage(0, 0, 0, 1)", "damage(0, 1, 4, 3)").is("head(0, 0, 0)", 0).is("head(0, 1, 2)", 0);
+        r.is("copy(0, 0, 0, 3, 0, 1, 0)", 3).is("byteOf(0, 1, 14)", 3).isWith(5, "copy(0, 0, 0, 1, 0, 2, 0)", KIND);
+        r.isWith(5, "move(0, 0, 1, 0, 2)", 0).isWith(0, "move(0, 0, 1, 0, 1)", 1).is("read(0, 1)", KIND).does("seal(0, 0)", "tear(0, 0, 13)");
+        r.is("head(0, 0, 2)", 3).is("copy(0, 0, 0, 3, 0, 1, 0)", SPAN).is("copy(0, 0, 0, 2, 0, 1, 1)", 2).is("copy(0, 1, 0, 1, 0, 0, 2)", SPAN);
+    }
+
     @Says("43: (HEADS stay.)")
     static void copyHeadsStay(Due due) {
         Run r = levels(due, 4).does("punch(0, 3, 2, 77)");
@@ -284,6 +307,13 @@ public final class EditingEdgesTest {
             }
         }
         new Run(due).does("roll()", "strip(0, 0, 0, 0, 0)").is("transpose(0, 0, 7)", 0).is("read(0, 0)", 0);
+    }
+
+    @Says("44: All ELEMENTS of a STRIP: what was torn off is none of them")
+    static void transposeTorn(Due due) {
+        Run r = new Run(due).does("roll()").strip(0, 0, 255, 255, 255).does("tear(0, 0, 10)", "seal(0, 0)");
+        r.is("transpose(0, 0, 7)", 7).is("count(5)", 7).is("fallen(6, 0)", 0).is("fallen(7, 0)", NONE).is("read(0, 0)", 1);
+        r.does("tear(0, 0, 9)", "seal(0, 0)").is("transpose(0, 0, 7)", 0).is("count(5)", 0).is("read(0, 0)", 0);
     }
 
     @Says("44: it is SEALED")
@@ -348,6 +378,19 @@ public final class EditingEdgesTest {
         toMend(due).does("lose(1, 3)").is("mend(0, 0, 1)", 4).is("read(0, 0)", 6);
     }
 
+    @Says("46: A STRIP gets a copy of the BYTES: of 256 ELEMENTS, of none, of each KIND")
+    static void mendLongAndShort(Due due) {
+        for (int kind = 0; kind < 4; kind++) {
+            for (int n : new int[] {0, 1, 256}) {
+                for (int had : new int[] {0, 1, 256}) {
+                    Run r = new Run(due).does("roll()", "strip(0, " + kind + ", 1, " + had + ", 0)", "damage(0, 0, 8, 1)");
+                    r.does("strip(0, " + kind + ", 1, " + n + ", 0)", "punch(0, 1, " + (n - 1) + ", 77)").isWith(0, "mend(0, 0, 0)", 1);
+                    r.is("read(0, 0)", n).is("count(6)", 2 * n).is("sum(0, 0)", r.ask("sum(0, 1)"));
+                }
+            }
+        }
+    }
+
     @Says("46: NONE: there is none")
     static void mendByNone(Due due) {
         toMend(due).isWith(0, "mend(0, 0, 0)", NONE).is("read(0, 0)", SUM).does("lose(1, 3)", "tear(1, 4, 9)")
@@ -386,7 +429,7 @@ public final class EditingEdgesTest {
         for (String[] other : unlike) {
             Run r = new Run(due).does("roll()", "roll()").does(first).does(other[0], "strip(1, 1, 6, 2, 3)");
             if (!other[1].isEmpty()) r.is("equal(0, 1)", 1).does(other[1]);
-            r.is("equal(0, 1)", 0).is("equal(1, 0)", 0).is("equal(1, 1)", 1);
+            r.isWith(0, "equal(0, 1)", 0).isWith(0, "equal(1, 0)", 0).isWith(0, "equal(1, 1)", 1);
         }
         new Run(due).does("roll()", "roll()").does(first).does("strip(1, 1, 6, 2, 3)", "strip(1, 0, 5, 1, 2)").is("equal(0, 1)", 0);
         new Run(due).does("roll()", "roll()").does(first).does("strip(1, 0, 5, 1, 2)", "strip(1, 1, 6, 2, 3)", "lose(1, 1)")

@@ -254,6 +254,25 @@ public final class InstrumentsEdgesTest {
         r.is("trace(5)", 1).is("trace(0)", 1).is("trace(13)", 1).is("trace(8)", 2);
     }
 
+    @Says("section 3: LOUD of 0 PIPE, 1 REED, 2 DRUM, 3 PLUCKED, 4 BELL, 5 COUPLER; AIR of 6 PIPE, 7 BASS; FREQUENCY of 8 PIPE, 9 REED, 10 BASS, 11 PLUCKED, 12 BELL, 13 COUPLER .. As a .. does that one's body, too")
+    static void bodiesOfEach(Due due) {
+        int[][] louds = {{0, 6, 8}, {1, 0, 6, 9, 8}, {1, 0, 7, 6, 10, 9, 8}, {2}, {3, 11}, {4, 3, 12, 11}, {5, 13, 11}};
+        for (int i = 0; i < 7; i++) {
+            Run r = organ(due).does("couple(6, 4)").strip(0, 1, 1 << i).does("play(0)", "tick(1)");
+            long[] want = new long[17];
+            for (int b = 14; b < 17; b++) want[b] = r.ask("trace(" + b + ")");
+            for (int n = 1; n <= 2; n++) {
+                r.does("loud(0)");
+                for (int b : louds[i]) want[b]++;
+                r.row("trace(*)", want);
+            }
+            if (i == 3) continue;
+            r.does("frequency(" + i + ")", "mute(" + i + ")", "higher(" + i + ", " + i + ")");
+            for (int b : louds[i]) want[b] += b > 7 ? 4 : 0;
+            r.row("trace(*)", want);
+        }
+    }
+
     @Says("section 3: BODIES: 14 TO OPEN any, 15 TO OPEN a COUPLER (which does 14, too; both also if it is SPOILT then); 16 TO END any")
     static void bodiesOfOpening(Due due) {
         Run r = organ(due).is("couple(6, 0)", 1).is("spoil(6, 1)", 0).strip(0, 3, 64, 0, 64).does("play(0)", "tick(1)");
@@ -272,7 +291,8 @@ public final class InstrumentsEdgesTest {
             r.is("times(0, 0)", n == 0 ? 4 : 3).is("times(0, 1)", n == 0 ? 4 : 3).does("halt()").is("spoil(0, 0)", 0);
         }
         Run r = organ(due).does("spoil(0, 1000)").strip(0, 2, 1, 0).does("play(0)", "tick(2)", "halt()");
-        r.is("spoil(0, 0)", 999);
+        r.is("spoil(0, 2)", 999).does("play(0)", "tick(1)").is("open(0)", 1).does("halt()", "play(0)", "tick(1)").is("open(0)", 0);
+        r.does("halt()", "play(0)", "tick(1)").is("open(0)", 1);
     }
 
     @Says("section 3: A COUPLER then OPENS its MEMBERS, in order")

@@ -26,6 +26,52 @@ public final class PlayingEdgesTest {
 
     // ---- section 4
 
+    @Says("section 4: TRACKS 0 .. 7 have a WIRE to a PLACE of a CHEST (none at first), a HOLE, a LEVEL")
+    static void noWireAtFirst(Due due) {
+        Run r = new Run(due).does("instrument(0)", "chest(7, 1)", "place(0, 0, 0)", "roll()").strip(0, 1, 255).does("play(0)");
+        r.is("tick(1)", 1).row("open(*)", 0, 0, 0, 0, 0, 0, 0, 0).is("count(3)", 1).is("trace(14)", 0);
+        for (int t = 0; t < 8; t++) {
+            r = new Run(due).does("instrument(0)", "chest(7, 1)", "place(0, 0, 0)", "roll()", "wire(" + t + ", 0, 0)");
+            r.strip(0, 1, 255).does("play(0)").is("tick(1)", 1).event(1, 1, 0, 0, t).is("count(3)", 2).is("open(" + t + ")", 1);
+        }
+    }
+
+    @Says("section 4: OPENED (of: the INSTRUMENT; its TRACK): the last INSTRUMENT by the last TRACK, at the last PLACE of the last CHEST")
+    static void lastOfAll(Due due) {
+        Run r = new Run(due).does("roll()");
+        for (int i = 0; i < 60; i++) r.does("instrument(4)");
+        for (int c = 0; c < 16; c++) r.does("chest(4, " + (c < 15 ? 0 : 200) + ")");
+        r.is("place(15, 199, 59)", 1).is("wire(7, 15, 199)", 1).strip(0, 2, 128, 0).strip(2, 1, 'p').strip(0, 1, 128).does("play(0)");
+        r.is("tick(1)", 1).is("sounding(0, 0)", 59).is("sounding(0, 1)", 7).is("loud(0)", 995).is("tick(1)", 1).is("times(59, 0)", 1);
+        r.is("times(59, 1)", 1).is("times(58, 0)", 0).is("times(58, 1)", 0).event(1, 1, 0, 59, 7).event(2, 2, 1, 59, 7);
+        r.is("tick(2)", 2).is("open(7)", 0).is("times(59, 0)", 1);
+    }
+
+    @Says("section 4: what came by its opening is ENDED: a COUPLER of 40 levels")
+    static void fortyLevels(Due due) {
+        Run r = new Run(due).does("roll()");
+        for (int i = 0; i < 40; i++) r.does("instrument(" + (i < 39 ? 6 : 0) + ")");
+        for (int i = 0; i < 39; i++) r.does("couple(" + i + ", " + (i + 1) + ")");
+        r.does("chest(6, 1)", "place(0, 0, 0)", "wire(0, 0, 0)", "spoil(39, 2)").strip(0, 3, 1, 0, 1).does("play(0)");
+        r.is("tick(1)", 1).is("open(0)", 40).is("sounding(39, 0)", 39).is("loud(39)", 1019).is("loud(0)", 0).is("tick(1)", 1);
+        r.event(41, 2, 1, 39, 0).event(80, 2, 1, 0, 0).is("count(3)", 81).is("tick(1)", 1).is("open(0)", 0).is("count(3)", 160);
+        r.event(119, 1, 2, 38, 0).event(120, 2, 2, 38, 0).event(158, 2, 2, 0, 0).event(159, 3, 2, 0, 10).is("count(4)", 0);
+    }
+
+    @Says("section 4: the most that can sound: 8 TRACKS, each with a COUPLER of SIZE 40")
+    static void allThatCanSound(Due due) {
+        Run r = new Run(due);
+        Scenes.allSizes(r);
+        r.does("chest(6, 1)", "place(0, 0, 0)", "roll()");
+        for (int t = 0; t < 8; t++) r.does("wire(" + t + ", 0, 0)");
+        r.strip(0, 4, 255, 127, 255, 254).does("play(0)").is("tick(1)", 1).is("count(4)", 320).is("open(7)", 40).is("count(3)", 321);
+        r.is("sounding(0, 0)", 0).is("sounding(319, 0)", 3).is("sounding(319, 1)", 7).is("sounding(319, 2)", 1).is("sounding(320, 0)", NONE);
+        r.is("loud(319)", 1019).is("loud(320)", NONE).is("tick(1)", 1).is("count(4)", 280).is("sounding(280, 0)", NONE).is("open(7)", NONE);
+        r.is("tick(1)", 1).is("count(4)", 320).is("sounding(319, 2)", 1).is("sounding(279, 2)", 3).is("tick(1)", 1).is("count(4)", 280);
+        r.is("sounding(0, 1)", 1).is("sounding(279, 1)", 7).is("back(2)", 2).is("count(4)", 280).is("sounding(0, 1)", 0).is("back(1)", 1);
+        r.is("sounding(319, 1)", 7).is("count(4)", 320).is("halt()", 320).is("times(3, 0)", 240).is("times(3, 1)", 240);
+    }
+
     @Says("section 4: When a ROLL begins: no HOLE is open, LEVELS are 1000, the STOPS of all 16 CHESTS are drawn, TEMPO is 24, BEAT, PHASE, TICKS GONE are 0, no EVENTS, nothing was OPENED or ENDED, no STRIP is at hand")
     static void whenARollBegins(Due due) {
         Run r = organ(due).strip(0, 4, 255, 255, 3).strip(1, 0, 0x8005).strip(2, 0, 'a', 'p').strip(3, 3, 60 << 16 | 2);
@@ -162,7 +208,8 @@ public final class PlayingEdgesTest {
         }
         for (int e : new int[] {0x8000, 0xffff, 0x8001, 0xf000}) {
             long v = e & 4095;
-            organ(due).strip(1, 1, e).does("play(0)", "tick(1)").row("level(*)", v, v, v, v, v, v, v, v);
+            organ(due).strip(1, 1, e).does("play(0)", "tick(1)").row("level(*)", v, v, v, v, v, v, v, v).row("at(*)", 24, 0, 1, 1, 0, 1, 1)
+                .does("halt()").row("spoil(*, 0)", 0, 0, 0, 0, 0, 0, 0).row("times(*, 0)", 0, 0, 0, 0, 0, 0, 0);
         }
     }
 
@@ -173,9 +220,24 @@ public final class PlayingEdgesTest {
             for (int other = 0; other < 16; other++) r.is("stop(" + other + ")", other == c ? 0 : 1);
             r.is("tick(1)", 1).is("stop(" + c + ")", 1);
         }
-        int[] others = {'a' - 1, 'p' + 1, 'A' - 1, 'P' + 1, 0, 65535, 'a' + 256, 'p' + 0x8000, 'z', 'Z', '0'};
-        Run r = organ(due).strip(2, 0, others).strip(2, 0, 'c').strip(2, 0, others).strip(2, 1, 'C' + 256).does("play(0)", "tick(1)");
-        for (int c = 0; c < 16; c++) r.is("stop(" + c + ")", c == 2 ? 0 : 1);
+    }
+
+    @Says("section 4: (others: nothing)")
+    static void stopsByOthers(Due due) {
+        int[] none = new int[16];
+        for (int c = 0; c < 16; c++) none[c] = 'a' + c;
+        for (int first = 0; first < 65536; first = first == 256 ? 65280 : first + 64) {
+            int[] others = new int[64];
+            for (int k = 0; k < 64; k++) {
+                int letter = first + k;
+                boolean told = letter >= 'A' && letter <= 'P' || letter >= 'a' && letter <= 'p';
+                others[k] = told ? letter + 256 : letter;
+            }
+            Run drawn = organ(due).strip(2, 0, others).strip(0, 1, 1).does("play(0)", "tick(1)").is("loud(0)", 1019);
+            drawn.row("stop(*)", 1, 1, 1, 1, 1, 1, 1, 1, 1, 1, 1, 1, 1, 1, 1, 1);
+            Run still = organ(due).strip(0, 0, 1).strip(2, 0, none).strip(2, 0, others).strip(0, 1, 1).does("play(0)", "tick(1)");
+            still.row("stop(*)", new long[16]).is("loud(0)", 1003);
+        }
     }
 
     @Says("section 4: TEMPO: t is v & 65535, r v >>> 16; t 0: nothing (what goes on goes on)")
@@ -216,6 +278,14 @@ public final class PlayingEdgesTest {
         long top = 65534L * 17000 * 2 + 65535;
         due.is("it is beyond an int", top > Integer.MAX_VALUE ? 1 : 0, 1);
         r.is("at(0)", 1 + Math.floorDiv(top, 131070L));
+    }
+
+    @Says("section 4: (c) TEMPO goes on: in the TICKS of a STRIP with a FINDING, too; (d) TICKS GONE is one more")
+    static void tempoThroughAFinding(Due due) {
+        Run r = silence(due, 0).strip(3, 1, 4 << 16 | 4).strip(3, 2, 99, 99).strip(0, 2).does("lose(0, 1)", "play(0)");
+        int[] tempi = {19, 14, 9, 4, 4};
+        for (int k = 0; k < 5; k++) r.is("tick(1)", 1).is("at(0)", tempi[k]).is("at(3)", k + 1);
+        r.is("at(1)", 1).is("at(2)", 1).event(1, 0, 1, 1, 1);
     }
 
     @Says("section 4: Else it goes from what it is to t")
@@ -260,6 +330,9 @@ public final class PlayingEdgesTest {
         r.isWith(BUSY, "play(0)", BUSY).is("play(1)", BAD).is("at(7)", 1).is("tick(1)", 0).is("play(0)", 0).is("halt()", 0);
         for (int i = 1; i < 20; i++) r.is("roll()", i);
         r.is("strip(19, 0, 0, 0, 1)", 0).is("play(20)", BAD).is("play(19)", 1).is("tick(2)", 1);
+        Run scene = new Run(due);
+        Scenes.rest(scene);
+        scene.is("play(1)", 5).does("halt()").is("play(0)", 4).does("halt()").is("play(2)", 0);
         Refused.are(due, Scenes::busy, BUSY, "play(0)", "play(1)", "play(2)");
         Refused.are(due, Scenes::busy, BAD, "play(-1)", "play(3)", "play(MIN)", "play(MAX)");
     }
@@ -395,6 +468,7 @@ public final class PlayingEdgesTest {
         Run r = organ(due).does("tune(0, 0, 0)").strip(1, 0, 0x1005).strip(0, 2, 0x4f).does("play(0)").is("loud(0)", NONE);
         r.is("tick(1)", 1).row("loud(*)", 0, 31, 1045, 0, 0, NONE).is("loud(-1)", BAD).is("loud(MAX)", NONE);
         r.row("trace(*)", 2, 2, 1, 0, 0, 0, 2, 1, 3, 2, 1, 0, 0, 1);
+        organ(due).does("tune(1, 0, 7)").strip(0, 1, 2).does("play(0)", "tick(1)").is("mute(1)", 0).is("loud(0)", 1026);
         Refused.are(due, Scenes::busy, BAD, "loud(-1)", "loud(MIN)");
         Refused.are(due, Scenes::busy, NONE, "loud(99)", "loud(MAX)");
     }
@@ -411,6 +485,18 @@ public final class PlayingEdgesTest {
         new Run(due).is("stop(0)", 0).is("stop(15)", 0).is("stop(-1)", BAD).is("stop(16)", BAD).is("roll()", 0).does("play(0)")
             .is("stop(0)", 1).is("stop(15)", 1).does("tick(1)").is("stop(15)", 1);
         Refused.are(due, Scenes::busy, BAD, "stop(-1)", "stop(16)", "stop(MIN)", "stop(MAX)");
+    }
+
+    @Says("36: What = 0 TEMPO, 1 BEAT, 2 PHASE, 3 TICKS GONE, 4 the place of the STRIP at hand (NONE), 5 how many of its TICKS are over, 6 whether it is WHOLE (1, 0), 7 whether a ROLL is PLAYED (1, 0)")
+    static void atEach(Due due) {
+        Run r = silence(due, 0).strip(3, 2, 3).strip(3, 0, 2).strip(0, 3).strip(0, 1).does("damage(0, 2, 0, 1)", "play(0)");
+        int[][] want = {{24, 0, 0, 0, NONE, 0, 0, 1}, {3, 0, 1, 1, 0, 1, 1, 1}, {3, 0, 2, 2, 0, 2, 1, 1}, {2, 1, 0, 3, 2, 1, 0, 1},
+            {2, 1, 1, 4, 2, 2, 0, 1}, {2, 2, 0, 5, 2, 3, 0, 1}, {2, 2, 1, 6, 3, 1, 1, 1}};
+        for (int gone = 0; gone < want.length; gone++) {
+            for (int what = 0; what < 8; what++) r.is("at(" + what + ")", want[gone][what]);
+            r.is("at(8)", gone).is("tick(1)", gone < 6 ? 1 : 0);
+        }
+        r.row("at(*)", 2, 2, 1, 6, 3, 1, 1, 0, 6);
     }
 
     @Says("36: all 0 (4: NONE) before one began; when it is over as it was then. 8 TICKS that went in all. BAD")

@@ -34,11 +34,11 @@ final class Refused {
         }
     }
 
-    /** status() is asked twice, so that as many calls are left for questions as behind a refused call. */
+    /** status() is asked three times, so that as many calls are left for questions as behind a refused call. */
     private static List<String> toldUntouched(Due due, Consumer<Run> scene, Consumer<Told> questions) {
         Run run = new Run(due);
         scene.accept(run);
-        run.does("status()", "status()");
+        run.does("status()", "status()", "status()");
         return toldBy(run, questions);
     }
 

@@ -416,6 +416,7 @@ public final class RollsEdgesTest {
             long[] head = new long[9];
             for (int i = 0; i < 9; i++) head[i] = r.ask("byteOf(0, 0, " + i + ")");
             r.is("punch(0, 0, 0, 77)", 1).row("byteOf(0, 0, *)", head).is("byteOf(0, 0, 9)", 77).is("read(0, 0)", finding);
+            r.is("punch(0, 0, 2, 7)", one.startsWith("tear") ? TORN : 1).row("byteOf(0, 0, *)", head);
         }
         Run r = withStrip(due, 0, 3).is("punch(0, 0, 2, 77)", 1).is("read(0, 0)", 3).is("head(0, 0, 1)", 5);
         r.is("head(0, 0, 3)", r.ask("sum(0, 0)"));

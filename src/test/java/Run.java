@@ -60,8 +60,9 @@ final class Run {
         return this;
     }
 
-    /** The answer and what status() tells then. */
+    /** The answer and what status() tells then; a call ahead of it has status() tell something else before. */
     Run isWith(int status, String call, long want) {
+        x.count(status == 0 ? -1 : 0);
         due.is(call, ask(call), want);
         due.is("status() behind " + call, x.status(), status);
         return this;

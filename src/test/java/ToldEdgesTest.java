@@ -81,4 +81,38 @@ public final class ToldEdgesTest {
         r.isWith(1, "head(1, 3, 0)", 0).isWith(2, "sum(1, 2)", 0).isWith(5, "frequency(3)", 0).isWith(BAD, "digest(9)", 0);
         r.isWith(0, "digest(2)", 7).isWith(2, "move(0, 9, 1, 0, 0)", 0).isWith(0, "tune(0, 0, 0)", 0).isWith(0, "higher(0, 0)", 0);
     }
+
+    /** Calls that are answered in the scene at rest; each behind one that is refused. */
+    private static final String[] ANSWERED_AT_REST = {
+        "roll()", "strip(0, 0, 0, 1, 1)", "punch(0, 0, 0, 1)", "seal(0, 0)", "lose(0, 0)", "lose(1, 3)", "tear(0, 0, 9)",
+        "damage(0, 0, 0, 1)", "byteOf(0, 0, 0)", "head(0, 0, 0)", "sum(0, 0)", "read(0, 0)", "whole(0)", "finding(1, 0)",
+        "finding(0, 0)", "told(0, 0, 0)", "told(1, 3, 3)", "instrument(0)", "couple(6, 1)", "chest(7, 1)", "place(0, 0, 1)",
+        "place(0, 0, -1)", "wire(0, 0, 9)", "wire(0, -1, 0)", "spoil(0, 1)", "tune(0, 1, 2)", "tune(0, 0, 0)", "base(1)",
+        "frequency(0)", "frequency(1)", "mute(0)", "mute(1)", "higher(0, 2)", "higher(2, 0)", "higher(0, 0)", "higher(0, 1)",
+        "play(0)", "play(2)", "tick(1)", "halt()", "back(0)", "open(0)", "sounding(0, 0)", "loud(0)", "level(0)", "stop(0)",
+        "at(0)", "at(4)", "at(7)", "at(8)", "times(0, 0)", "times(0, 1)", "event(0, 0)", "event(999, 0)", "cut(0, 0)",
+        "join(0, 1)", "repeat(0, 0, 1)", "repeat(0, 0, 0)", "move(0, 0, 1, 0, 0)", "move(0, 0, 0, 0, 0)",
+        "copy(0, 0, 0, 1, 0, 0, 0)", "transpose(1, 0, 1)", "transpose(1, 0, 0)", "fallen(0, 0)", "fallen(0, 1)", "fallen(9, 0)",
+        "mend(0, 0, 1)", "mend(1, 1, 0)", "equal(0, 0)", "equal(0, 1)", "equal(1, 2)", "digest(0)", "count(0)", "count(1)",
+        "count(2)", "count(3)", "count(4)", "count(5)", "count(6)", "count(7)", "strips(0)", "members(6)", "trace(0)", "trace(16)"};
+
+    private static final String[] ANSWERED_WHILE_PLAYED = {
+        "tick(0)", "tick(1)", "tick(500)", "halt()", "back(0)", "back(5)", "back(6)", "open(0)", "open(1)", "open(2)",
+        "sounding(0, 0)", "sounding(0, 1)", "sounding(0, 2)", "sounding(99, 0)", "loud(0)", "loud(1)", "loud(2)", "loud(99)",
+        "level(0)", "stop(0)", "at(0)", "at(4)", "at(5)", "at(6)", "at(7)", "at(8)", "times(0, 0)", "event(0, 0)", "event(99, 0)"};
+
+    @Says("53: How the latest act but status() went: 0 behind each act that is answered, or answered with NONE")
+    static void statusOfAnswered(Due due) {
+        for (String call : ANSWERED_AT_REST) {
+            Run r = new Run(due);
+            Scenes.rest(r);
+            due.is("status() behind " + call, r.does("count(-1)", call).ask("status()"), 0);
+        }
+        for (String call : ANSWERED_WHILE_PLAYED) {
+            Run r = new Run(due);
+            Scenes.busy(r);
+            due.is("status() behind " + call, r.does("count(-1)", call).ask("status()"), 0);
+        }
+        new Run(due).does("roll()", "strip(0, 0, 0, 0, 0)", "play(0)", "count(-1)").is("tick(1)", 0).is("status()", 0);
+    }
 }
